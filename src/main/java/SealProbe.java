@@ -1034,7 +1034,7 @@ public final class SealProbe {
         }
 
         private boolean has(int ground) {
-            return ground >= 0 && ground < terms.count || isUnnumbered(ground);
+            return ground >= 0 && ground < terms.count || ground >= stretch && ground < stretch + unnumbered;
         }
 
         int find(int kind, int x, int y) {
@@ -1061,7 +1061,7 @@ public final class SealProbe {
         }
 
         /** A TERM whose VARIABLES stand for what is in the row "at" from the place values on. */
-        int groundOf(int term, int[] at, int values, int depth) {
+        private int groundOf(int term, int[] at, int values, int depth) {
             if (!terms.has(term) || depth > DEEPEST) {
                 return NOTHING;
             }
@@ -1127,7 +1127,7 @@ public final class SealProbe {
             return agent >= 0 && agent < terms.count && (!terms.honest[agent] || privateOf[agent] == starts);
         }
 
-        boolean canMake(int ground, int depth) {
+        private boolean canMake(int ground, int depth) {
             if (!has(ground) || depth > DEEPEST || makeable[ground] == -starts) {
                 return false;
             }
@@ -1184,7 +1184,7 @@ public final class SealProbe {
             }
         }
 
-        int giveNumber(int ground, int depth) {
+        private int giveNumber(int ground, int depth) {
             if (!isUnnumbered(ground) || depth > DEEPEST) {
                 return ground;
             }
@@ -1430,25 +1430,25 @@ public final class SealProbe {
             return ways;
         }
 
-        /** The first way, if there is one; whether THE ROW makes it. */
-        boolean first(Event event, int session) {
+        /** Chooses the first way, if there is one: the part from which it is to be weighed. */
+        int first(Event event, int session) {
             values = session * SESSION_WIDTH + 1;
             for (int j = 0; j < event.bindCount; j++) {
                 choose(event, j, 0);
             }
-            return weigh(event, 0);
+            return 0;
         }
 
-        /** The way behind the latest one; whether THE ROW makes it. */
-        boolean next(Event event) {
+        /** Chooses the way behind the latest one: the part from which it is to be weighed. */
+        int next(Event event) {
             for (int j = event.bindCount - 1; j >= 0; j--) {
                 if (choice[j] + 1 < optionCount[event.bindSort[j]]) {
                     choose(event, j, choice[j] + 1);
-                    return weigh(event, event.partsFrom[j + 1]);
+                    return event.partsFrom[j + 1];
                 }
                 choose(event, j, 0);
             }
-            return false;
+            return 0;
         }
 
         private void choose(Event event, int j, int option) {
@@ -1456,25 +1456,23 @@ public final class SealProbe {
             draft[values + event.binds[j]] = options[event.bindSort[j]][option];
         }
 
-        private boolean weigh(Event event, int fromPart) {
+        /** Whether THE ROW makes what was chosen. */
+        boolean weigh(Event event, int fromPart) {
             for (int i = fromPart; i < event.partCount; i++) {
-                weighPart(event.parts[i]);
+                int part = event.parts[i];
+                is[part] = valueOf(part);
+                can[part] = is[part] != NOTHING ? intruder.canMake(is[part], 0) : canCompose(part);
             }
             return can[event.term];
         }
 
-        private void weighPart(int part) {
-            if (terms.ground[part]) {
-                is[part] = part;
-            } else if (terms.kind[part] == VARIABLE) {
-                is[part] = draft[values + terms.place[part]];
-            } else {
-                is[part] = valueOf(part);
-            }
-            can[part] = is[part] != NOTHING ? intruder.canMake(is[part], 0) : canCompose(part);
-        }
-
         private int valueOf(int part) {
+            if (terms.ground[part]) {
+                return part;
+            }
+            if (terms.kind[part] == VARIABLE) {
+                return draft[values + terms.place[part]];
+            }
             int x = is[terms.first[part]];
             int second = terms.second[part];
             int y = second == NOTHING ? NOTHING : is[second];
@@ -1593,8 +1591,8 @@ public final class SealProbe {
             }
             ways += (int) more;
             for (int way = 0; way < more && answer == 0; way++) {
-                boolean made = way == 0 ? chooser.first(event, session) : chooser.next(event);
-                if (made && !states.has(draft, width)) {
+                int part = way == 0 ? chooser.first(event, session) : chooser.next(event);
+                if (chooser.weigh(event, part) && !states.has(draft, width)) {
                     // receiving brings the intruder nothing: what there is here, there is there
                     reach(state, session, here);
                 }
