@@ -12,7 +12,7 @@ public final class ModelTest {
     }
 
     public static void main(String[] args) {
-        int runs = args.length > 0 ? Integer.parseInt(args[0]) : 1500;
+        int runs = args.length > 0 ? Integer.parseInt(args[0]) : 6000;
         long first = args.length > 1 ? Long.parseLong(args[1]) : 0;
         int wrong = 0;
         int[] outcome = new int[4];
@@ -152,6 +152,12 @@ public final class ModelTest {
         if (random.nextInt(3) != 0 && roles == 2) {
             mirror();
         }
+        if (random.nextInt(8) == 0) {
+            echo(people);
+        }
+        if (random.nextInt(20) == 0) {
+            crowd();
+        }
         int knows = random.nextInt(4);
         for (int i = 0; i < knows; i++) {
             twins.know(made(grounds, people, random.nextInt(3)));
@@ -205,6 +211,28 @@ public final class ModelTest {
         for (int i = 0; i < events; i++) {
             boolean sends = random.nextBoolean();
             twins.event(r, sends, made(all, agents, 1 + random.nextInt(3)));
+        }
+    }
+
+    /** A ROLE that sends what it got, larger than any TERM may be, if that was large. */
+    private void echo(List<Integer> people) {
+        int r = twins.role();
+        int v = twins.variable(r, 2, 3);
+        int w = twins.variable(r, 1, 1);
+        twins.event(r, false, v);
+        twins.event(r, true, twins.term(4, twins.term(4, v, w), twins.of(6, v, pick(people))));
+        int large = pick(grounds);
+        for (int i = 0; i < 4 && large >= 0; i++) {
+            large = twins.term(4, large, made(grounds, people, 2));
+        }
+        twins.session(r, 0, 0, 0);
+    }
+
+    /** Hardly any room for TERMS is left. */
+    private void crowd() {
+        int until = 180 + random.nextInt(20);
+        while (twins.model.terms.size() < until) {
+            twins.atom(1 + random.nextInt(2));
         }
     }
 

@@ -179,7 +179,13 @@ public final class RolesTest {
         for (int v = 0; v < 4; v++) {
             x.variable(1, 0, 0);
         }
-        due.is("no role", x.session(2, 0, 0, 0), Due.UNKNOWN);
+        x.role();
+        for (int v = 0; v < 3; v++) {
+            x.variable(2, 0, 0);
+        }
+        due.is("no role", x.session(3, 0, 0, 0), Due.UNKNOWN);
+        due.is("no c", x.session(2, 0, 0, 99), Due.UNKNOWN);
+        due.is("the third one is no agent", x.session(2, 0, 0, 1), Due.NO);
         due.is("no a", x.session(0, 99, 0, 0), Due.UNKNOWN);
         due.is("no b", x.session(0, 0, -1, 0), Due.UNKNOWN);
         due.is("no agent", x.session(0, 1, 0, 0), Due.NO);

@@ -11,11 +11,13 @@ public final class RunTest {
         whatIsMade();
         rowInOrder();
         rowTakenApartAgain();
+        rowAgainForOneOfTwo();
         rowOfLocksAndSigns();
         rowMakesTerms();
         rowMakesInOrder();
         rowIsFull();
         rowTooBig();
+        rowJustNotTooBig();
         deepest();
         undone();
         due.close();
@@ -281,6 +283,23 @@ public final class RunTest {
         due.is("a key that is put together", y.row(2, 4), 2);
     }
 
+    /** A pair of which but one brings something new lets the row be gone through again, too. */
+    private static void rowAgainForOneOfTwo() {
+        for (int way = 0; way < 2; way++) {
+            SealProbe x = new SealProbe();
+            int k = x.atom(2);
+            int n = x.atom(1);
+            int old = x.atom(1);
+            x.know(x.term(5, n, k));
+            x.know(x.term(4, way == 0 ? k : old, way == 0 ? old : k));
+            x.know(old);
+            x.begin();
+            due.is("the key", x.row(3, 4), k);
+            due.is("out of the seal", x.row(4, 4), n);
+            due.is("no more", x.row(5, 0), Due.NONE);
+        }
+    }
+
     private static void rowOfLocksAndSigns() {
         SealProbe x = new SealProbe();
         int good = x.agent(true);
@@ -405,6 +424,27 @@ public final class RunTest {
             x.atom(1);
         }
         due.is("full ahead of no", x.row(1, 4), Due.FULL);
+    }
+
+    private static void rowJustNotTooBig() {
+        SealProbe x = new SealProbe();
+        int eleven = x.atom(1);
+        x.know(eleven);
+        for (int size = 2; size <= 11; size++) {
+            eleven = x.term(9, eleven, 0);
+        }
+        x.role();
+        int v = x.variable(0, 2, 3);
+        x.event(0, false, v);
+        x.event(0, true, x.term(4, x.term(9, v, 0), v));
+        x.session(0, 0, 0, 0);
+        x.begin();
+        due.is("receive", x.receive(0, eleven), 1);
+        x.send(0);
+        due.is("size", x.row(1, 1), 24);
+        int had = x.told(0);
+        due.is("made", x.row(1, 4), had + 1);
+        due.is("its size", x.about(had + 1, 3), 24);
     }
 
     /** The deepest that there can be: a TERM of SIZE 24 in one of SIZE 24. */

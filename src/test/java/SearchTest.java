@@ -15,6 +15,8 @@ public final class SearchTest {
         tooManyStates();
         tooManyWays();
         countedAhead();
+        sixVariables();
+        longestAttack();
         newTermsAreTried();
         needhamSchroeder();
         runStays();
@@ -273,6 +275,64 @@ public final class SearchTest {
         x.know(150);
         due.is("one of them can be made", x.search(), Due.OPEN);
         foundIs(x, 5, 20001, Due.NONE, 0);
+    }
+
+    /** All six VARIABLES of a ROLE are received at once. */
+    private static void sixVariables() {
+        SealProbe x = new SealProbe();
+        int a = x.agent(true);
+        int b = x.agent(true);
+        x.role();
+        int all = x.variable(0, 2, 0);
+        for (int v = 1; v < 6; v++) {
+            all = x.term(4, all, x.variable(0, 2, 0));
+        }
+        x.event(0, false, all);
+        x.session(0, 0, 0, 0);
+        due.is("search", x.search(), 0);
+        foundIs(x, 65, 64, Due.NONE, 64);
+        x.begin();
+        int pairs = b;
+        for (int v = 1; v < 6; v++) {
+            pairs = x.term(4, pairs, v == 3 ? a : b);
+        }
+        due.is("receive", x.receive(0, pairs), 1);
+        for (int v = 0; v < 6; v++) {
+            due.is("stands", x.stands(0, v), v == 3 ? a : b);
+        }
+    }
+
+    /** The longest that there is: each SESSION waits for the one ahead of it. */
+    private static void longestAttack() {
+        SealProbe x = new SealProbe();
+        int last = x.atom(1);
+        x.know(last);
+        for (int r = 0; r < 4; r++) {
+            x.role();
+            x.event(r, false, last);
+            for (int k = 1; k < 5; k++) {
+                x.event(r, true, last);
+            }
+            last = x.atom(1);
+            x.event(r, true, last);
+            x.variable(r, 1, 1);
+        }
+        for (int s = 0; s < 4; s++) {
+            x.session(s, 0, 0, 0);
+        }
+        x.agree(3, 3, 0);
+        due.is("search", x.search(), 1);
+        foundIs(x, 25, 4 + 6 * 3 + 6 * 2 + 6, 24, 1);
+        for (int k = 0; k < 24; k++) {
+            due.is("attack", x.attack(k), k / 6);
+        }
+        due.is("no more", x.attack(24), Due.NONE);
+        due.is("play", x.play(24), 5);
+        due.is("too far", x.play(25), Due.OUTSIDE);
+        for (int k = 23; k >= 0; k--) {
+            due.is("undo", x.undo(), k);
+        }
+        due.is("row", x.row(1, 0), Due.NONE);
     }
 
     private static void newTermsAreTried() {
