@@ -9,14 +9,22 @@ final class Due {
         asked++;
         if (got != want) {
             wrong++;
-            StackTraceElement from = new Throwable().getStackTrace()[1];
-            System.out.println(from.getMethodName() + ":" + from.getLineNumber() + ": " + call + " answered " + got
-                    + ", due is " + want);
+            System.out.println(place() + ": " + call + " answered " + got + ", due is " + want);
         }
     }
 
     void is(String what, boolean so) {
         is(what, so ? 1 : 0, 1);
+    }
+
+    /** Where the test asks, not where a helper does. */
+    private static String place() {
+        for (StackTraceElement e : new Throwable().getStackTrace()) {
+            if (e.getClassName().endsWith("Test")) {
+                return e.getMethodName() + ":" + e.getLineNumber();
+            }
+        }
+        return "?";
     }
 
     void close() {
