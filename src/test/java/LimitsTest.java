@@ -13,6 +13,7 @@ public final class LimitsTest {
         twoHundredBySessions();
         twoHundredByRow();
         theSameOfTwoHundred();
+        alikeButNotTheSame();
         sizesOfPairsAndSeals();
         sizesOfOthers();
         sizesWithVariables();
@@ -157,6 +158,29 @@ public final class LimitsTest {
         }
         due.is("another", x.term(4, 1, 1), Due.FULL);
         due.is("terms", x.told(0), 200);
+    }
+
+    /** 160 TERMS of the same two kinds of things: each is new, and each is found again. */
+    private static void alikeButNotTheSame() {
+        for (int way = 0; way < 2; way++) {
+            SealProbe x = new SealProbe();
+            for (int a = 0; a < 40; a++) {
+                x.agent(true);
+            }
+            for (int round = 0; round < 2; round++) {
+                for (int a = 0; a < 40; a++) {
+                    int y = way == 0 ? 7 : a;
+                    int other = way == 0 ? a : 7;
+                    due.is("pair", x.term(4, other, y), 40 + 4 * a);
+                    due.is("seal", x.term(5, other, y), 41 + 4 * a);
+                    due.is("lock", x.of(6, other, y), 42 + 4 * a);
+                    due.is("sign", x.of(8, other, y), 43 + 4 * a);
+                }
+            }
+            due.is("terms", x.told(0), 200);
+            due.is("what the last is of", x.about(199, 1), way == 0 ? 39 : 7);
+            due.is("what the last is of", x.about(199, 2), way == 0 ? 7 : 39);
+        }
     }
 
     /** TERMS of SIZE 1 to 24 at these places. */

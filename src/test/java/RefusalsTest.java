@@ -27,6 +27,8 @@ public final class RefusalsTest {
         attackOfOne();
         attackOfNone();
         foundNothing();
+        theVeryTermItSends();
+        afterClear();
         due.close();
     }
 
@@ -670,5 +672,109 @@ public final class RefusalsTest {
         r.is("no attack ahead of outside", x -> x.play(25), Due.STATE);
         r.is("attack(0)", x -> x.attack(0), Due.NONE);
         r.is("known: what was found stays", x -> x.know(0), Due.NO);
+    }
+
+    /** What would fit is not received by an EVENT that sends, nor sent by one that receives. */
+    private static void theVeryTermItSends() {
+        Refusals r = new Refusals(due, x -> {
+            x.agent(true);
+            x.role();
+            x.variable(0, 0, 0);
+            x.event(0, true, 0);
+            x.event(0, false, 0);
+            x.event(0, true, 1);
+            x.session(0, 0, 0, 0);
+            x.begin();
+        });
+        r.is("it sends just that", x -> x.receive(0, 0), Due.NO);
+        Refusals next = new Refusals(due, x -> {
+            x.agent(true);
+            x.role();
+            x.event(0, false, 0);
+            x.session(0, 0, 0, 0);
+            x.begin();
+        });
+        next.is("it receives just that", x -> x.send(0), Due.NO);
+    }
+
+    /** Nothing of what was there ahead of clear() is left: another story goes as on a new object. */
+    private static void afterClear() {
+        Refusals small = new Refusals(due, RefusalsTest::small);
+        small.isAs("nothing", x -> {
+            x.clear();
+            small(x);
+        });
+        small.isAs("much", x -> {
+            full(x);
+            x.clear();
+            small(x);
+        });
+        small.isAs("a run", x -> {
+            tooBig(x);
+            x.begin();
+            x.receive(0, 11);
+            x.send(0);
+            x.clear();
+            small(x);
+        });
+        small.isAs("an attack", x -> {
+            attack(x);
+            x.play(1);
+            x.clear();
+            small(x);
+        });
+        Refusals waits = new Refusals(due, RefusalsTest::waits);
+        waits.isAs("small ones", x -> {
+            small(x);
+            x.search();
+            x.begin();
+            x.send(0);
+            x.clear();
+            waits(x);
+        });
+        waits.isAs("itself", x -> {
+            waits(x);
+            x.search();
+            x.clear();
+            waits(x);
+        });
+        waits.isAs("much", x -> {
+            full(x);
+            x.clear();
+            waits(x);
+        });
+        new Refusals(due, RefusalsTest::waits).is("it was not received", x -> x.event(1, true, 3), Due.NO);
+        new Refusals(due, x -> {
+            x.atom(1);
+            x.role();
+            x.variable(0, 2, 3);
+            x.event(0, false, 1);
+            x.clear();
+            x.atom(1);
+            x.role();
+            x.variable(0, 2, 3);
+        }).is("it was not received since", x -> x.event(0, true, 1), Due.NO);
+    }
+
+    /** EVENTS that receive other VARIABLES, in another order, than those of the other stories. */
+    private static void waits(SealProbe x) {
+        x.atom(2);
+        x.know(0);
+        x.role();
+        x.role();
+        x.variable(0, 2, 2);        // 1
+        x.variable(0, 2, 3);        // 2
+        x.variable(1, 2, 3);        // 3
+        x.term(4, 2, 1);            // 4
+        x.term(4, 0, 0);            // 5
+        x.event(0, false, 4);
+        x.event(0, true, 1);
+        x.event(0, false, 2);
+        x.session(0, 0, 0, 0);
+        x.session(0, 0, 0, 0);
+        x.agree(0, 0, 3);
+        x.join(0, 1, 1);
+        x.begin();
+        x.receive(1, 5);
     }
 }

@@ -16,6 +16,10 @@ public final class RowEdgesTest {
         howEachCame();
         sentInOrder();
         manyPlaces();
+        manyPlacesAgain();
+        keyPutTogetherLater();
+        deepKey();
+        agentsInOthers();
         groundOrNot();
         madeOfTwo();
         madeBySigning();
@@ -317,6 +321,123 @@ public final class RowEdgesTest {
         due.is("size", x.row(43, 1), 23);
         due.is("how the next came", x.row(44, 2), 2);
         due.is("from where", x.row(44, 3), 20);
+    }
+
+    /** What has no number is there once, too, though it is sent by many EVENTS. */
+    private static void manyPlacesAgain() {
+        SealProbe x = new SealProbe();
+        x.role();
+        int[] fresh = new int[6];
+        for (int v = 0; v < 6; v++) {
+            fresh[v] = x.variable(0, 1, 1);
+        }
+        int[] sent = new int[3];
+        for (int k = 0; k < 3; k++) {
+            sent[k] = fresh[k];
+            for (int pairs = 0; pairs < 11; pairs++) {
+                sent[k] = x.term(4, sent[k], fresh[(k + pairs) % 6]);
+            }
+        }
+        for (int k = 0; k < 6; k++) {
+            x.event(0, true, sent[k < 3 ? k : 5 - k]);
+        }
+        for (int s = 0; s < 4; s++) {
+            x.session(0, 0, 0, 0);
+        }
+        x.begin();
+        int last = 0;
+        for (int k = 0; k < 6; k++) {
+            for (int s = 0; s < 4; s++) {
+                last = x.send(s);
+            }
+        }
+        due.is("twelve that were sent, ten pairs in each, the fresh ones", last, 12 + 12 * 10 + 24);
+        due.is("how the twelfth came", x.row(11, 2), 1);
+        due.is("how the next came", x.row(12, 2), 2);
+    }
+
+    /** The key is a HASH of what comes out of a PAIR behind it; so it is in each RUN, and in THE SEARCH. */
+    private static void keyPutTogetherLater() {
+        SealProbe x = new SealProbe();
+        int k = x.atom(2);
+        int n = x.atom(1);
+        int m = x.atom(1);
+        int seal = x.term(5, n, x.term(9, x.term(4, k, k), 0));
+        x.know(seal);
+        int pair = x.term(4, m, k);
+        x.role();
+        x.event(0, true, pair);
+        x.role();
+        x.event(1, false, n);
+        x.session(0, 0, 0, 0);
+        x.session(1, 0, 0, 0);
+        for (int round = 0; round < 3; round++) {
+            x.begin();
+            due.is("no key", x.makes(n), 0);
+            due.is("send", x.send(0), 5);
+            rowIs(x, new int[][] {{5, 6, 0, NONE, seal}, {4, 3, 1, NONE, pair}, {1, 1, 2, 1, m}, {2, 1, 3, 1, k},
+                {1, 1, 4, 0, n}});
+            due.is("made", x.makes(n), 1);
+            due.is("receive", x.receive(1, n), 1);
+        }
+        due.is("search", x.search(), 0);
+        due.is("states", x.found(0), 3);
+        due.is("all done", x.found(3), 1);
+    }
+
+    /** A key that is deeper than any TERM: 21 HASHES of what stands for 23 HASHES of n. */
+    private static void deepKey() {
+        SealProbe x = new SealProbe();
+        int n = x.atom(1);
+        int m = x.atom(2);
+        x.know(n);
+        int deep = n;
+        for (int size = 2; size <= 24; size++) {
+            deep = x.term(9, deep, 0);
+        }
+        x.role();
+        int v = x.variable(0, 2, 3);
+        int f = x.variable(0, 1, 1);
+        int key = v;
+        for (int size = 2; size <= 22; size++) {
+            key = x.term(9, key, 0);
+        }
+        int sealed = x.term(5, f, key);
+        due.is("its size", x.about(sealed, 3), 24);
+        x.event(0, false, v);
+        x.event(0, true, sealed);
+        x.session(0, 0, 0, 0);
+        x.begin();
+        due.is("receive", x.receive(0, deep), 1);
+        due.is("it is opened", x.send(0), 3);
+        due.is("size", x.row(1, 1), 1 + 1 + 21 + 24);
+        due.is("out of the seal", x.row(2, 4), x.stands(0, 1));
+        x.end();
+        x.secret(0, 1);
+        due.is("search", x.search(), 1);
+        due.is("known, then opened", x.play(2), 3);
+        due.is("m is not", x.makes(m), 0);
+    }
+
+    /** An AGENT within others does not bring its PRIVATE. */
+    private static void agentsInOthers() {
+        SealProbe x = new SealProbe();
+        int good = x.agent(true);
+        int n = x.atom(1);
+        int o = x.atom(1);
+        x.know(x.term(4, good, n));
+        x.know(x.term(4, n, good));
+        x.know(x.term(5, good, n));
+        x.know(x.term(9, good, 0));
+        x.know(x.of(6, good, good));
+        x.know(x.of(8, good, good));
+        x.know(x.of(6, o, good));
+        x.know(good);
+        x.begin();
+        due.is("its private", x.makes(x.of(7, 0, good)), 0);
+        due.is("signed by it", x.makes(x.of(8, n, good)), 0);
+        due.is("locked for it", x.makes(o), 0);
+        due.is("what it signed", x.makes(x.of(8, good, good)), 1);
     }
 
     private static void groundOrNot() {

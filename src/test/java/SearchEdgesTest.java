@@ -25,6 +25,10 @@ public final class SearchEdgesTest {
         whatIsNotGone();
         theLatestCounts();
         playEach();
+        playTheEarlierParts();
+        othersFirst();
+        waysThatAreMade();
+        rowsApart();
         playAnew();
         due.close();
     }
@@ -557,6 +561,119 @@ public final class SearchEdgesTest {
         due.is("by hand", x.receive(0, n), 2);
         due.is("end", x.end(), 2);
         due.is("play(1)", x.play(1), 3);
+    }
+
+    /** VARIABLE 0 comes to stand last: it stands for nothing in the parts ahead. */
+    private static void playTheEarlierParts() {
+        SealProbe x = new SealProbe();
+        int n = x.atom(1);
+        x.know(n);
+        x.role();
+        int v = x.variable(0, 2, 1);
+        int w = x.variable(0, 2, 1);
+        x.event(0, true, n);
+        x.event(0, false, w);
+        x.event(0, false, x.term(9, w, 0));
+        x.event(0, false, v);
+        x.session(0, 0, 0, 0);
+        x.agree(0, 0, 0);
+        due.is("search", x.search(), 1);
+        for (int k = 0; k <= 4; k++) {
+            due.is("play", x.play(k), 1);
+            due.is("v", x.stands(0, 0), k == 4 ? n : NONE);
+            due.is("w", x.stands(0, 1), k >= 2 ? n : NONE);
+        }
+    }
+
+    /** The ATTACK does not begin with SESSION 0, which waits for ever. */
+    private static void othersFirst() {
+        SealProbe x = new SealProbe();
+        int never = x.atom(1);
+        x.role();
+        x.event(0, false, never);
+        x.role();
+        int f = x.variable(1, 1, 1);
+        x.event(1, true, f);
+        x.session(0, 0, 0, 0);
+        x.session(0, 0, 0, 0);
+        x.session(1, 0, 0, 0);
+        x.secret(1, 0);
+        due.is("search", x.search(), 1);
+        foundIs(x, 2, 2, 1, 0);
+        due.is("attack(0)", x.attack(0), 2);
+        due.is("attack(1)", x.attack(1), NONE);
+        due.is("play", x.play(1), 1);
+        due.is("done", x.done(2), 1);
+        due.is("not done", x.done(0), 0);
+    }
+
+    private static int madeWays(int kind, boolean itsPrivate, boolean within) {
+        SealProbe x = new SealProbe();
+        int good = x.agent(true);
+        x.agent(false);
+        int n = x.atom(1);
+        x.atom(1);
+        x.know(n);
+        if (itsPrivate) {
+            x.know(x.of(7, 0, good));
+        }
+        x.role();
+        int v = x.variable(0, 2, 1);
+        int w = x.variable(0, 2, kind == 4 || kind == 5 ? 1 : 0);
+        int t = kind == 4 || kind == 5 || kind == 9 ? x.term(kind, v, w) : x.of(kind, v, w);
+        x.event(0, false, within ? x.term(9, x.term(4, n, t), 0) : t);
+        x.session(0, 0, 0, 0);
+        due.is("search", x.search(), 0);
+        due.is("ways of kind " + kind, x.found(1), kind == 7 || kind == 9 ? 2 : 4);
+        due.is("all done", x.found(3), x.found(0) - 1);
+        return x.found(3);
+    }
+
+    /** Of TERMS that are not there, with what is made and what is not: the ways that lead on. */
+    private static void waysThatAreMade() {
+        int[] kinds = {4, 5, 6, 7, 8, 9};
+        int[] made = {1, 1, 2, 1, 1, 1};
+        int[] madeWithPrivate = {1, 1, 2, 2, 2, 1};
+        for (int i = 0; i < 6; i++) {
+            for (int within = 0; within < 2; within++) {
+                due.is("kind " + kinds[i], madeWays(kinds[i], false, within == 1), made[i]);
+                due.is("kind " + kinds[i] + ", the private", madeWays(kinds[i], true, within == 1), madeWithPrivate[i]);
+            }
+        }
+    }
+
+    /** THE ROW of a RUN, with TERMS that have no number, is not touched by a search. */
+    private static void rowsApart() {
+        SealProbe x = new SealProbe();
+        x.role();
+        x.role();
+        int f = x.variable(0, 1, 1);
+        int g = x.variable(1, 1, 1);
+        x.event(0, true, x.term(9, f, 0));
+        x.event(0, false, x.term(9, f, 0));
+        x.event(1, true, x.term(4, x.term(9, g, 0), x.term(5, g, g)));
+        x.event(1, false, x.term(5, g, g));
+        x.session(0, 0, 0, 0);
+        x.session(1, 0, 0, 0);
+        x.secret(0, 0);
+        x.begin();
+        x.send(1);
+        due.is("send", x.send(0), 4);
+        int[] kind = {4, 9, 9, 5};
+        int[] size = {6, 2, 2, 3};
+        int[] from = {NONE, NONE, 0, 0};
+        for (int round = 0; round < 2; round++) {
+            for (int i = 0; i < 4; i++) {
+                due.is("kind", x.row(i, 0), kind[i]);
+                due.is("size", x.row(i, 1), size[i]);
+                due.is("from", x.row(i, 3), from[i]);
+            }
+            due.is("search", x.search(), 0);
+            foundIs(x, 9, 6, NONE, 1);
+        }
+        due.is("the pair", x.row(0, 4), x.told(0) - 1);
+        due.is("of a hash", x.about(x.about(x.told(0) - 1, 1), 0), 9);
+        due.is("of g", x.about(x.about(x.told(0) - 1, 1), 1), x.stands(1, 0));
     }
 
     private static void playAnew() {

@@ -44,14 +44,29 @@ final class Refusals {
         for (int i = 0; i < parts.size(); i++) {
             SealProbe x = told();
             call.applyAsInt(x);
-            int[] got = askAll(x, parts.get(i));
-            for (int j = 0; j < got.length; j++) {
-                if (got[j] != answers.get(i)[j]) {
-                    due.is("after " + name + ": " + parts.get(i).get(j).name, got[j], answers.get(i)[j]);
-                    return;
-                }
+            if (!compare(name, i, askAll(x, parts.get(i)))) {
+                return;
             }
         }
+    }
+
+    /** An object that another story made answers everything as one that this story made. */
+    void isAs(String name, Consumer<SealProbe> otherStory) {
+        for (int i = 0; i < parts.size(); i++) {
+            SealProbe x = new SealProbe();
+            otherStory.accept(x);
+            due.is(name, compare(name, i, askAll(x, parts.get(i))));
+        }
+    }
+
+    private boolean compare(String name, int i, int[] got) {
+        for (int j = 0; j < got.length; j++) {
+            if (got[j] != answers.get(i)[j]) {
+                due.is("after " + name + ": " + parts.get(i).get(j).name, got[j], answers.get(i)[j]);
+                return false;
+            }
+        }
+        return true;
     }
 
     private SealProbe told() {
