@@ -164,6 +164,12 @@ public final class TermsTest {
         x.term(9, 1, 0);
         x.of(7, 0, 0);
         x.of(6, 4, 0);
+        x.agent(true);
+        x.atom(2);
+        x.term(5, 7, 9);
+        x.of(8, 9, 8);
+        x.variable(0, 0, 0);
+        x.of(7, 0, 12);
         int[][] rows = {
             {0, Due.NONE, Due.NONE, 1, 1, 0, Due.NONE, Due.NONE, Due.NONE},
             {1, Due.NONE, Due.NONE, 1, 1, Due.NONE, Due.NONE, Due.NONE, Due.NONE},
@@ -173,6 +179,12 @@ public final class TermsTest {
             {9, 1, Due.NONE, 2, 1, Due.NONE, Due.NONE, Due.NONE, Due.NONE},
             {7, 0, Due.NONE, 2, 1, Due.NONE, Due.NONE, Due.NONE, Due.NONE},
             {6, 4, 0, 5, 0, Due.NONE, Due.NONE, Due.NONE, Due.NONE},
+            {0, Due.NONE, Due.NONE, 1, 1, 1, Due.NONE, Due.NONE, Due.NONE},
+            {2, Due.NONE, Due.NONE, 1, 1, Due.NONE, Due.NONE, Due.NONE, Due.NONE},
+            {5, 7, 9, 7, 0, Due.NONE, Due.NONE, Due.NONE, Due.NONE},
+            {8, 9, 8, 3, 1, Due.NONE, Due.NONE, Due.NONE, Due.NONE},
+            {3, Due.NONE, Due.NONE, 1, 0, Due.NONE, 0, 0, 0},
+            {7, 12, Due.NONE, 2, 0, Due.NONE, Due.NONE, Due.NONE, Due.NONE},
         };
         for (int t = 0; t < rows.length; t++) {
             for (int what = 0; what <= 8; what++) {
@@ -181,7 +193,7 @@ public final class TermsTest {
         }
         due.is("about(0, 9)", x.about(0, 9), Due.OUTSIDE);
         due.is("about(0, -1)", x.about(0, -1), Due.OUTSIDE);
-        due.is("about(8, 0)", x.about(8, 0), Due.UNKNOWN);
+        due.is("about(14, 0)", x.about(14, 0), Due.UNKNOWN);
         due.is("unknown ahead of outside", x.about(-1, 9), Due.UNKNOWN);
     }
 }
