@@ -207,6 +207,9 @@ public final class RefusalsTest {
             r.is("no claim ahead of no run", x -> x.broken(none), Due.UNKNOWN);
         }
         r.is("a secret", x -> x.join(0, 0, 0), Due.STATE);
+        // a SECRET has no b and a of which there could be no such VARIABLE
+        r.is("a secret, whatever the variables", x -> x.join(0, -1, 0), Due.STATE);
+        r.is("a secret, whatever the variables", x -> x.join(0, 0, 6), Due.STATE);
     }
 
     private static void smallWithoutRun() {
