@@ -1096,7 +1096,8 @@ public final class SealProbe {
             boolean came = true;
             for (int pass = 0; pass <= MOST_GROUND && came; pass++) {
                 came = false;
-                for (int i = 0; i < length; i++) {
+                // the row grows as it is gone through, but never beyond all that there can be
+                for (int i = 0; i < length && i < MOST_GROUND; i++) {
                     came = takeApartAt(i) || came;
                 }
             }
